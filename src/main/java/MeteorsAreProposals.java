@@ -465,26 +465,30 @@ public final class MeteorsAreProposals {
             return NO_SUCH_TOLD_AS_LONG;
         }
         int times = Integer.bitCount(one.seenFrom(now.roof[l], one.column));
-        int need = Sky.need(now.quick[l]);
         // 20 to the power of 14, the most steps there are, is still a long
-        long above = 0;
         long below = 1;
+        for (int k = 0; k < times; k++) {
+            below *= t;
+        }
+        return inLeastTerms(waysOfEnough(times, Sky.need(now.quick[l]), t), below, part);
+    }
+
+    /** Of t to the power of times ways, of which t - 1 in t are clear each time, those clear often enough. */
+    private static long waysOfEnough(int times, int need, int t) {
+        long ways = 0;
         long choices = 1;
         long clear = 1;
         for (int k = 0; k <= times; k++) {
             if (k >= need) {
-                above += choices * clear;
+                ways += choices * clear;
             }
             choices = choices * (times - k) / (k + 1);
             clear *= t - 1;
         }
-        for (int k = 0; k < times; k++) {
-            below *= t;
-        }
-        return inLeastTerms(above, below, part);
+        return ways;
     }
 
-    /** Below is above 0, so what both are divided by is, too. */
+    /** Some 90 turns are the most that two longs need; below is above 0, so what divides both is, too. */
     private static long inLeastTerms(long above, long below, int part) {
         long a = above;
         long b = below;
@@ -511,15 +515,15 @@ public final class MeteorsAreProposals {
             return NO_SUCH_PLACE;
         }
         int first = NONE;
-        int together = 0;
+        int allMore = 0;
         for (int night = 0; night < row.length; night++) {
             int more = meteorsOf(night) - row.at(night);
             if (more > 0) {
-                together += more;
+                allMore += more;
                 first = first == NONE ? night : first;
             }
         }
-        return what == 0 ? first : together;
+        return what == 0 ? first : allMore;
     }
 
     private int meteorsOf(int night) {
@@ -1410,7 +1414,8 @@ public final class MeteorsAreProposals {
                 case 'm':
                     return isMeteorTold(text, place, sky);
                 case 'l':
-                    return sky.putOnRoof(digit(text, place + 1), twoDigits(text, place + 2), digit(text, place + 4)) >= 0;
+                    int roof = twoDigits(text, place + 2);
+                    return sky.putOnRoof(digit(text, place + 1), roof, digit(text, place + 4)) >= 0;
                 case 'r':
                     return sky.runNight(twoDigits(text, place + 1)) >= 0;
                 case 'f':

@@ -69,6 +69,12 @@ public final class CurvesAndNightsTest {
         Check.row(y, 0, Check.BYTES, 5, 6, 7);
         Check.due("20: it goes so", y.curve(0, 0), 1);
         Check.due("20: but lasts no longer", y.curve(0, 2), -4);
+        MeteorsAreProposals edges = Check.told("m00011009;m00153009;");
+        Check.row(edges, 0, Check.BYTES, 1);
+        Check.due("20: the first meteor, to column 0", edges.curve(0, 2), 0);
+        Check.row(edges, 0, Check.BYTES, 15, 15);
+        Check.due("20: no column above 15", edges.curve(0, 0), 2);
+        Check.due("20: no column above 15", edges.curve(0, 2), 15);
     }
 
     private static void comes() {
@@ -96,6 +102,7 @@ public final class CurvesAndNightsTest {
         Check.due("22: 32 the other way", x.together(1, 0), 32);
         Check.due("22: never", x.together(2, 3), -4);
         Check.due("22: 25", x.together(3, 4), 25);
+        Check.due("22: in the first night", Check.told("m00002009;m09002009;").together(0, 1), 0);
         Check.due("22: one twice", x.together(1, 1), -1);
         Check.due("22: no such one", x.together(0, 5), -1);
         Check.due("22: no such one", x.together(-1, 0), -1);
@@ -153,6 +160,11 @@ public final class CurvesAndNightsTest {
         Check.due("24: all of August", x.darkOnes(0, 1), 4);
         Check.row(x, 0, Check.INTS, new int[32]);
         Check.due("24: too many", x.darkOnes(0, 1), -13);
+        Check.row(x, 0, Check.INTS, 100, 0);
+        Check.due("24: the first is too great", x.darkOnes(0, 0), -13);
+        MeteorsAreProposals y = Check.told("m00002009;");
+        Check.row(y, 0, Check.INTS, 0);
+        Check.due("24: night 0", y.darkOnes(0, 0), 0);
         Check.row(x, 0, Check.INTS, 0, 100);
         Check.due("24: too great", x.darkOnes(0, 0), -13);
         Check.row(x, 0, Check.BYTES, 0, -128);
@@ -244,6 +256,7 @@ public final class CurvesAndNightsTest {
         MeteorsAreProposals x = new MeteorsAreProposals();
         Check.due("29: of none", x.mean(0), 0);
         Check.due("29: of none", x.mean(1), 1);
+        Check.due("29: 7 by 1", Check.told("m07002009;").mean(0), 7);
         Check.text(x, 0, "m50002009;m50002009;");
         Check.due("29: 0 by 2", x.mean(0), 0);
         Check.due("29: 0 by 2", x.mean(1), 1);

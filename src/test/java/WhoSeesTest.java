@@ -64,6 +64,8 @@ public final class WhoSeesTest {
         Check.due("11: below 0", x.taker(-1), -1);
         MeteorsAreProposals y = Check.told("l0045;l1045;m00042009;");
         Check.due("11: of several the least", y.taker(0), 0);
+        Check.due("11: the last looker", Check.told("m00142009;").taker(0), 4);
+        Check.due("11: the last looker", Check.told("m00142009;").unseen(), 0);
     }
 
     private static void unseen() {
@@ -72,6 +74,7 @@ public final class WhoSeesTest {
         x.looks(4, 13, 0);
         Check.due("12: seen, though too slow to say yes", x.unseen(), 0b00110);
         Check.due("12: of none", new MeteorsAreProposals().unseen(), 0);
+        Check.due("12: the first", Check.told("m20002009;m00002009;").unseen(), 1);
     }
 
     private static void mistakesAndWaiting() {
@@ -87,6 +90,7 @@ public final class WhoSeesTest {
         Check.due("13: none", x.mistakes(), 0);
         Check.due("14: 2 and 4", x.waiting(), 0b10100);
         Check.due("14: all", new MeteorsAreProposals().waiting(), 31);
+        Check.due("13: a mistake of 0", Check.told("m00002001;r00;").mistakes(), 1);
     }
 
     private static void august() {
@@ -111,6 +115,8 @@ public final class WhoSeesTest {
         x.looks(0, 0, 2);
         Check.due("16: too slow from everywhere", x.bestRoof(0, 0), 0);
         Check.due("16: none", x.bestRoof(0, 1), 0);
+        x.looks(0, 0, 9);
+        Check.due("16: a yes in step 0 counts", x.bestRoof(0, 1), 2);
         Check.due("16: what", x.bestRoof(0, 2), -1);
         Check.due("16: what", x.bestRoof(0, -1), -1);
         Check.due("16: looker", x.bestRoof(5, 0), -1);
@@ -157,6 +163,10 @@ public final class WhoSeesTest {
         Check.due("18: pushed out", x.wed(3), -4);
         x.meant(0, 3);
         Check.due("18: for her", x.wed(3), 0);
+        MeteorsAreProposals two = Check.told("l1105;l4105;m04102009;m04102009;m04102009;");
+        Check.due("18: of as much heat the least", two.wed(1), 0);
+        Check.due("18: then the next, by 3", two.wed(3), 1);
+        Check.due("18: the last is left for 4", two.wed(4), 2);
         // a dark one is never asked, one without heat is
         MeteorsAreProposals y = Check.told("m29032009;m00032009;");
         Check.due("18: without heat", y.wed(1), 1);
