@@ -83,11 +83,15 @@ public final class MeteorsAreProposals {
             return -1000 - wrongByte;
         }
         supposed.becomes(now);
-        int answer = SkyText.tell(text, supposed);
-        if (answer >= 0) {
-            now.becomes(supposed);
+        int statements = 0;
+        for (int place = 0; place < text.length; place += SkyText.digitsBehind(text.at(place)) + 2) {
+            if (!SkyText.isTold(text, place, supposed)) {
+                return -2000 - place;
+            }
+            statements++;
         }
-        return answer;
+        now.becomes(supposed);
+        return statements;
     }
 
     public int meteor(int m, int what) {
@@ -1385,7 +1389,8 @@ public final class MeteorsAreProposals {
             return NONE;
         }
 
-        private static int digitsBehind(int letter) {
+        /** Between them and the letter stands nothing, behind them one sign more. */
+        static int digitsBehind(int letter) {
             switch (letter) {
                 case 'm': return 8;
                 case 'l': return 4;
@@ -1395,21 +1400,8 @@ public final class MeteorsAreProposals {
             }
         }
 
-        /** How many statements have been told to a sky, or the fault of kind 2. */
-        static int tell(Row text, Sky sky) {
-            int statements = 0;
-            int place = 0;
-            while (place < text.length) {
-                if (!isTold(text, place, sky)) {
-                    return -2000 - place;
-                }
-                statements++;
-                place += digitsBehind(text.at(place)) + 2;
-            }
-            return statements;
-        }
-
-        private static boolean isTold(Row text, int place, Sky sky) {
+        /** The statement whose letter stands at a place, told to a sky, if it is as it must be. */
+        static boolean isTold(Row text, int place, Sky sky) {
             switch (text.at(place)) {
                 case 'm':
                     return isMeteorTold(text, place, sky);
