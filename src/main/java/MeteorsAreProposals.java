@@ -421,8 +421,9 @@ public final class MeteorsAreProposals {
         Arrays.fill(votes, 0);
         for (int m = 0; m < METEORS; m++) {
             Meteor one = now.at(m);
-            if (one != null && hasBit(bits, m) && step < one.steps) {
-                votes[one.columnAt(one.column, step)]++;
+            int over = one != null && hasBit(bits, m) && step < one.steps ? one.columnAt(one.column, step) : NONE;
+            if (isBelow(over, COLUMNS)) {
+                votes[over]++;
             }
         }
         int next = NONE;

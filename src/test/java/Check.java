@@ -3,15 +3,41 @@ final class Check {
     static final int BYTES = 0;
     static final int SHORTS = 1;
     static final int INTS = 2;
+    private static final long MOST_MILLISECONDS = 300_000;
     private static int wrong = 0;
     private static int asked = 0;
 
+    static {
+        // a call that never ends fails its test, too
+        Thread watch = new Thread(Check::endLate);
+        watch.setDaemon(true);
+        watch.start();
+    }
+
     private Check() {
+    }
+
+    private static void endLate() {
+        try {
+            Thread.sleep(MOST_MILLISECONDS);
+        } catch (InterruptedException e) {
+            return;
+        }
+        System.out.println("the test does not end");
+        Runtime.getRuntime().halt(1);
     }
 
     static void due(String what, long got, long want) {
         asked++;
         if (got != want) {
+            wrong++;
+            System.out.println(what + " answered " + got + ", due is " + want);
+        }
+    }
+
+    static void same(String what, String got, String want) {
+        asked++;
+        if (!got.equals(want)) {
             wrong++;
             System.out.println(what + " answered " + got + ", due is " + want);
         }
@@ -39,6 +65,12 @@ final class Check {
         that("the text " + text + " (" + statements + ")", statements > 0);
         x.keep(7, 0, 0, 0);
         return x;
+    }
+
+    /** A meteor more, by way of shelf 7: its number. */
+    static int fall(MeteorsAreProposals x, int kind, int figure, int column, int slope, int night) {
+        due("keep", x.keep(7, 1, kind, figure), 0);
+        return x.falls(7, column, slope, night);
     }
 
     static void row(MeteorsAreProposals x, int d, int sort, int... numbers) {

@@ -25,7 +25,7 @@ public final class PlainTest {
         }
         // the order in which reflection tells methods is free, and runs are to be the same each time
         calls.sort(Comparator.comparing(Method::getName));
-        int runs = args.length > 1 ? Integer.parseInt(args[1]) : 300;
+        int runs = args.length > 1 ? Integer.parseInt(args[1]) : 1000;
         int first = args.length > 2 ? Integer.parseInt(args[2]) : 0;
         for (int seed = first; seed < first + runs && wrong == 0; seed++) {
             oneRun(seed, calls);
