@@ -134,8 +134,7 @@ public final class CurveBoundsTest {
         Check.due("20: next at 0", x.curve(0, 2), 0);
         Check.row(x, 0, Check.SHORTS, 15);
         Check.due("20: 13 and 15: the least", x.curve(0, 2), 13);
-        MeteorsAreProposals eight = Check.told(
-            "m00052009;m00052009;m00052009;m00052009;m00052009;m00052009;m00052009;m00052009;");
+        MeteorsAreProposals eight = Check.told("m00052009;".repeat(8));
         Check.row(eight, 0, Check.BYTES, 5);
         Check.due("20: all eight", eight.curve(0, 0), 255);
         Check.due("20: eight", eight.curve(0, 1), 8);
@@ -333,8 +332,7 @@ public final class CurveBoundsTest {
     }
 
     private static void darkOnesMore() {
-        MeteorsAreProposals x = Check.told(
-            "m00002079;m00002079;m00002079;m00002079;m00002079;m00002079;m00002079;m00002079;");
+        MeteorsAreProposals x = Check.told("m00002079;".repeat(8));
         Check.row(x, 0, Check.BYTES, 5, 5, 5, 5, 5, 5, 5, 0);
         Check.due("24: all eight", x.darkOnes(0, 1), 8);
         Check.due("24: night 7", x.darkOnes(0, 0), 7);
@@ -402,8 +400,7 @@ public final class CurveBoundsTest {
         for (int c = 0; c <= 11; c++) {
             Check.due("26: of none", new MeteorsAreProposals().rowOfRoofs(c), 0);
         }
-        MeteorsAreProposals eight = Check.told(
-            "m50132009;m50132009;m50132009;m50132009;m50132009;m50132009;m50132009;m50132009;");
+        MeteorsAreProposals eight = Check.told("m50132009;".repeat(8));
         Check.due("26: all eight, by one", eight.rowOfRoofs(11), 8);
         Check.due("26: from 8 none", eight.rowOfRoofs(8), 0);
         Check.due("26: from 9 all", eight.rowOfRoofs(9), 8);
@@ -511,8 +508,7 @@ public final class CurveBoundsTest {
         Check.due("28: above", x.scorched(5), -1);
         Check.due("28: below", x.scorched(-1), -1);
         Check.due("28: of none", new MeteorsAreProposals().scorched(4), 0);
-        Check.due("28: the last of eight", Check.told("m20002009;m20002009;m20002009;m20002009;m20002009;m20002009;"
-            + "m20002009;m09122009;r00;").scorched(4), 4);
+        Check.due("28: the last of eight", Check.told("m20002009;".repeat(7) + "m09122009;r00;").scorched(4), 4);
     }
 
     private static void meanOf(String text, long above, long below) {
@@ -535,8 +531,8 @@ public final class CurveBoundsTest {
         meanOf("m01002009;m00002009;", 1, 2);
         meanOf("m02002009;m00002009;m00002009;m00002009;", 1, 2);
         meanOf("m06002009;m00002009;m00002009;m00002009;", 3, 2);
-        meanOf("m39002009;m39002009;m39002009;m39002009;m39002009;m39002009;m39002009;m39002009;", 18, 1);
-        meanOf("m39002009;m39002009;m39002009;m39002009;m39002009;m39002009;m39002009;m01002009;", 127, 8);
-        meanOf("m01002009;m00002009;m00002009;m00002009;m00002009;m00002009;m00002009;m00002009;", 1, 8);
+        meanOf("m39002009;".repeat(8), 18, 1);
+        meanOf("m39002009;".repeat(7) + "m01002009;", 127, 8);
+        meanOf("m01002009;" + "m00002009;".repeat(7), 1, 8);
     }
 }

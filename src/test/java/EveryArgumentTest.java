@@ -12,15 +12,15 @@ public final class EveryArgumentTest {
     private static final int[] PLACES = {Integer.MIN_VALUE, -1, 0, 1, 2, 3, Integer.MAX_VALUE};
     /** What each number of a call can be at its edges, a letter each: see numbers. */
     private static final Map<String, String> LETTERS = new TreeMap<>();
-    private static final Set<String> CHANGING = Set.of("sky", "falls", "meant", "looks", "run", "free", "image", "restore",
-        "keep", "row", "put", "copy");
+    private static final Set<String> CHANGING = Set.of("sky", "falls", "meant", "looks", "run", "free", "image",
+        "restore", "keep", "row", "put", "copy");
     private static int wrong = 0;
     private static int asked = 0;
 
     static {
-        String letters = "sky d,meteor mw,looker lx,falls dcpn,meant mf,looks lcq,run n,free l,seen lm2,taker m,unseen ,"
-            + "mistakes ,waiting ,august 2,bestRoof l2,roofs ,wed l,rings 2,curve d3,comes mv,together mm,clouds lmt2,"
-            + "darkOnes d2,game maa2,rowOfRoofs r,laws dq2,scorched l,mean 2,forged d,judge dv,augusts tz2,image ,"
+        String letters = "sky d,meteor mw,looker lx,falls dcpn,meant mf,looks lcq,run n,free l,seen lm2,taker m,"
+            + "unseen ,mistakes ,waiting ,august 2,bestRoof l2,roofs ,wed l,rings 2,curve d3,comes mv,together mm,"
+            + "clouds lmt2,darkOnes d2,game maa2,rowOfRoofs r,laws dq2,scorched l,mean 2,forged d,judge dv,augusts tz2,image ,"
             + "restore ,count w,keep dxkq,row dso,put diz,element di,copy didii,cost d,toss d";
         for (String call : letters.split(",")) {
             String[] parts = call.split(" ");
@@ -50,8 +50,8 @@ public final class EveryArgumentTest {
             case 'k': return new int[] {-1, 0, 1, 2, 3, 4, 5, 6, 7, 8};
             case 's': return new int[] {-1, 0, 1, 2, 3};
             case 'o': return new int[] {Integer.MIN_VALUE, -1, 0, 1, 99, 100, 101};
-            case 'z': return new int[] {Integer.MIN_VALUE, -65537, -32769, -129, -1, 0, 127, 128, 255, 256, 32767, 32768,
-                65535, 65536, Integer.MAX_VALUE};
+            case 'z': return new int[] {Integer.MIN_VALUE, -65537, -32769, -129, -1, 0, 127, 128, 255, 256, 32767,
+                32768, 65535, 65536, Integer.MAX_VALUE};
             case 'i': return PLACES;
             case '2': return new int[] {Integer.MIN_VALUE, -1, 0, 1, 2, Integer.MAX_VALUE};
             case '3': return new int[] {-1, 0, 1, 2, 3};

@@ -4,11 +4,11 @@ public final class FullRunTest {
     private static final String TEXT = "m79072000;f0;r02;";
     /** Good numbers for each call on Whole's coast; shelf 5 holds the text. */
     private static final String[] CALLS = {
-        "sky 5", "meteor 7 9", "looker 4 3", "falls 7 15 4 30", "meant 7 9", "looks 4 15 9", "run 2", "free 4", "seen 1 0 0",
-        "taker 7", "unseen", "mistakes", "waiting", "august 0", "bestRoof 4 1", "roofs", "wed 4", "rings 1", "curve 1 2",
-        "comes 7 365", "together 6 7", "clouds 1 0 20 1", "darkOnes 1 0", "game 3 5 5 0", "rowOfRoofs 11", "laws 2 9 0",
-        "scorched 1", "mean 0", "forged 1", "judge 3 365", "augusts 20 -1 0", "image", "restore", "count 5", "keep 7 1 4 9",
-        "row 7 2 100", "put 3 3 -5", "element 3 3", "copy 3 0 3 1 3", "cost 7", "toss 7",
+        "sky 5", "meteor 7 9", "looker 4 3", "falls 7 15 4 30", "meant 7 9", "looks 4 15 9", "run 2", "free 4",
+        "seen 1 0 0", "taker 7", "unseen", "mistakes", "waiting", "august 0", "bestRoof 4 1", "roofs", "wed 4",
+        "rings 1", "curve 1 2", "comes 7 365", "together 6 7", "clouds 1 0 20 1", "darkOnes 1 0", "game 3 5 5 0",
+        "rowOfRoofs 11", "laws 2 9 0", "scorched 1", "mean 0", "forged 1", "judge 3 365", "augusts 20 -1 0", "image", "restore", "count 5",
+        "keep 7 1 4 9", "row 7 2 100", "put 3 3 -5", "element 3 3", "copy 3 0 3 1 3", "cost 7", "toss 7",
     };
 
     private FullRunTest() {
@@ -68,12 +68,12 @@ public final class FullRunTest {
     private static void textsAgainAndAgain() {
         // two statements, and a fault behind them
         MeteorsAreProposals x = new MeteorsAreProposals();
-        Check.row(x, 0, Check.BYTES, 'm', '0', '9', '0', '3', '2', '0', '0', '9', ';', 'r', '0', '0', ';', 'f', '5', ';');
+        Check.row(x, 0, Check.BYTES, "m09032009;r00;f5;".chars().toArray());
         for (int call = 19; call <= LIMIT; call++) {
             Check.due("2: as call " + call, x.sky(0), -2014);
         }
         MeteorsAreProposals y = new MeteorsAreProposals();
-        Check.row(y, 0, Check.BYTES, 'l', '4', '1', '5', '9', ';', 'r', '3', '0', ';', 'f', '4', ';');
+        Check.row(y, 0, Check.BYTES, "l4159;r30;f4;".chars().toArray());
         for (int call = 15; call <= LIMIT; call++) {
             Check.due("2: as call " + call, y.sky(0), 3);
         }

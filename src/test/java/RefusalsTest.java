@@ -391,7 +391,8 @@ public final class RefusalsTest {
                 refused(-12, "copy", held[i], 0, kind, 0, -1);
             }
         }
-        int[][] sorts = {{BYTES, SHORTS}, {SHORTS, BYTES}, {BYTES, INTS}, {INTS, BYTES}, {SHORTS, INTS}, {INTS, SHORTS}};
+        int[][] sorts = {{BYTES, SHORTS}, {SHORTS, BYTES}, {BYTES, INTS}, {INTS, BYTES}, {SHORTS, INTS},
+            {INTS, SHORTS}};
         for (int[] pair : sorts) {
             refused(-12, "copy", pair[0], 0, pair[1], 0, 1);
             refused(-12, "copy", pair[0], 0, pair[1], 0, 0);

@@ -135,14 +135,15 @@ public final class SeeingBoundsTest {
         MeteorsAreProposals x = Check.told("m00032009;m00032019;r00;r01;");
         Check.due("11: hers", x.taker(0), 1);
         Check.due("11: she has another one", x.taker(1), 1);
-        Check.due("11: told of the last of eight", Check.told(
-            "m20002009;m20002009;m20002009;m20002009;m20002009;m20002009;m20002009;m00122009;").taker(7), 4);
+        Check.due("11: told of the last of eight", Check.told("m20002009;".repeat(7) + "m00122009;").taker(7), 4);
     }
 
     private static void unseen() {
-        MeteorsAreProposals x = Check.told("m20002009;m20032009;m20062009;m20092009;m20122009;m20002009;m20032009;m20062009;");
+        MeteorsAreProposals x = Check.told(
+            "m20002009;m20032009;m20062009;m20092009;m20122009;m20002009;m20032009;m20062009;");
         Check.due("12: all eight", x.unseen(), 255);
-        MeteorsAreProposals y = Check.told("m00002009;m00032009;m00062009;m00092009;m00122009;m00152009;m00002009;m00032009;");
+        MeteorsAreProposals y = Check.told(
+            "m00002009;m00032009;m00062009;m00092009;m00122009;m00152009;m00002009;m00032009;");
         Check.due("12: one is three columns from all", y.unseen(), 1 << 5);
         y.looks(4, 13, 0);
         Check.due("12: none", y.unseen(), 0);
@@ -157,8 +158,7 @@ public final class SeeingBoundsTest {
         Check.due("12: the other one at 0", edge.unseen(), 0);
         edge.looks(0, 1, 5);
         Check.due("12: not over 1", edge.unseen(), 0b10);
-        Check.due("12: the last of eight", Check.told("m50002009;m50002009;m50002009;m50002009;m50002009;m50002009;"
-            + "m50002009;m50012009;").unseen(), 128);
+        Check.due("12: the last of eight", Check.told("m50002009;".repeat(7) + "m50012009;").unseen(), 128);
         Check.due("12: of none", new MeteorsAreProposals().unseen(), 0);
     }
 
@@ -182,8 +182,7 @@ public final class SeeingBoundsTest {
         x.free(0);
         Check.due("13: no more", x.mistakes(), 14);
         Check.due("13: of none", new MeteorsAreProposals().mistakes(), 0);
-        Check.due("13: the last of eight", Check.told("m20002009;m20002009;m20002009;m20002009;m20002009;m20002009;"
-            + "m20002009;m00122003;r00;").mistakes(), 128);
+        Check.due("13: the last of eight", Check.told("m20002009;".repeat(7) + "m00122003;r00;").mistakes(), 128);
     }
 
     private static void waiting() {
@@ -211,7 +210,8 @@ public final class SeeingBoundsTest {
         }
         Check.due("15: of none", new MeteorsAreProposals().august(0), 0);
         Check.due("15: of none", new MeteorsAreProposals().august(1), 0);
-        MeteorsAreProposals eight = Check.told("m00002009;m00002019;m00002029;m00002039;m00002049;m00002059;m00002069;m00002309;");
+        MeteorsAreProposals eight = Check.told(
+            "m00002009;m00002019;m00002029;m00002039;m00002049;m00002059;m00002069;m00002309;");
         Check.due("15: only 0 is near", eight.august(0), 1);
         for (int l = 1; l < 5; l++) {
             eight.looks(l, 2, 5);
@@ -302,15 +302,14 @@ public final class SeeingBoundsTest {
             "m20002009;m21012009;m22022009;m23032009;m24042009;m25052009;m26062009;m29152009;").roofs(), 0);
         Check.due("17: BRIGHT 0 is wanted", Check.told("m20002009;m50152009;").roofs(), 1 << 15);
         Check.due("17: BRIGHT 0 at 0", Check.told("m50002009;").roofs(), 1);
-        Check.due("17: the last of eight", Check.told(
-            "m20002009;m20002009;m20002009;m20002009;m20002009;m20002009;m20002009;m50122009;").roofs(), 1 << 12);
+        Check.due("17: the last of eight", Check.told("m20002009;".repeat(7) + "m50122009;").roofs(), 1 << 12);
         Check.due("17: a KEPT one in its only step", Check.told("m79122009;").roofs(), 1);
         Check.due("17: in the last step", Check.told("m59001009;m59051009;m50002009;").roofs(), 1);
         Check.due("17: nobody need be there, nor be quick", Check.told(ALL_FAR + "m50032009;").roofs(), 1 << 3);
     }
 
     private static void roofsFewest() {
-        // 3 slates each seen from 2 and from 6 in turn, a fourth and a fifth from 2 and 6 alone: two, though 4 sees most
+        // two go from 2 to 4, two from 6 to 4, one stays at 2, one at 6: two roofs, though 4 alone sees most
         MeteorsAreProposals x = Check.told("m50023009;m50023009;m50022009;m50061009;m50061009;m50062009;");
         Check.due("17: the fewest, not the one that sees most first", x.roofs(), 1 << 2 | 1 << 6);
         // one roof of great number is fewer than two of small ones
@@ -326,7 +325,8 @@ public final class SeeingBoundsTest {
             bits |= 1 << columns[i];
             Check.due("17: " + (i + 1) + " roofs", w.roofs(), i < 4 ? bits : -4);
         }
-        Check.due("17: the last four columns", Check.told("m50122009;m50132009;m50142009;m50152009;").roofs(), 15 << 12);
+        MeteorsAreProposals last = Check.told("m50122009;m50132009;m50142009;m50152009;");
+        Check.due("17: the last four columns", last.roofs(), 15 << 12);
         Check.due("17: four for eight", Check.told(
             "m50002009;m50002009;m50012009;m50012009;m50022009;m50022009;m50032009;m50032009;").roofs(), 15);
     }
@@ -357,8 +357,7 @@ public final class SeeingBoundsTest {
         Check.due("18: 0 is as quick as 1, and less", z.wed(0), 3);
         Check.due("18: 1 has the next one", z.wed(1), 2);
         Check.due("18: 2 has the third", z.wed(2), 1);
-        Check.due("18: the last of eight", Check.told("m20122009;m20122009;m20122009;m20122009;m20122009;m20122009;"
-            + "m20122009;m00122009;").wed(4), 7);
+        Check.due("18: the last of eight", Check.told("m20122009;".repeat(7) + "m00122009;").wed(4), 7);
     }
 
     private static void wedByWhomTheyAreFor() {
@@ -478,7 +477,7 @@ public final class SeeingBoundsTest {
         Check.due("19: two", x.rings(0), 2);
         Check.due("19: 1 keeps hers", x.rings(1), 2);
         // 4 has the last of eight
-        MeteorsAreProposals y = Check.told("m00002009;m20032009;m20032009;m20032009;m20032009;m20032009;m20032009;m00122000;r00;");
+        MeteorsAreProposals y = Check.told("m00002009;" + "m20032009;".repeat(6) + "m00122000;r00;");
         y.meant(0, 4);
         Check.due("19: 0 and 4", y.rings(0), 2);
         Check.due("19: both change", y.rings(1), 2);

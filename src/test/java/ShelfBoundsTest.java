@@ -140,8 +140,8 @@ public final class ShelfBoundsTest {
 
     private static void putBits() {
         MeteorsAreProposals x = new MeteorsAreProposals();
-        int[] numbers = {0, 1, -1, 127, 128, 255, 256, 257, -128, -129, -256, 32767, 32768, 65535, 65536, -32768, -32769,
-            -65536, Integer.MAX_VALUE, Integer.MIN_VALUE, 0x12345678, 0x89abcdef};
+        int[] numbers = {0, 1, -1, 127, 128, 255, 256, 257, -128, -129, -256, 32767, 32768, 65535, 65536, -32768,
+            -32769, -65536, Integer.MAX_VALUE, Integer.MIN_VALUE, 0x12345678, 0x89abcdef};
         int[] bytes = {0, 1, -1, 127, -128, -1, 0, 1, -128, 127, 0, -1, 0, -1, 0, 0, -1, 0, -1, 0, 0x78, -17};
         int[] shorts = {0, 1, -1, 127, 128, 255, 256, 257, -128, -129, -256, 32767, -32768, -1, 0, -32768, 32767, 0, -1,
             0, 0x5678, -12817};

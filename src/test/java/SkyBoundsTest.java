@@ -1,7 +1,6 @@
 /** Promises 1 to 9 at the edges that the document names: least and greatest, empty and full, orders, cuts, faults. */
 public final class SkyBoundsTest {
-    private static final String SEVEN =
-        "m00002009;m00002009;m00002009;m00002009;m00002009;m00002009;m00002009;";
+    private static final String SEVEN = "m00002009;".repeat(7);
 
     private SkyBoundsTest() {
     }
@@ -179,7 +178,8 @@ public final class SkyBoundsTest {
                 text.append("m10002009;");
             }
             String full = text.toString();
-            Check.due("2: one more than there is room", Check.text(x, 0, full + "m10002009;"), -2004 - 10 * (8 - already));
+            int fault = -2004 - 10 * (8 - already);
+            Check.due("2: one more than there is room", Check.text(x, 0, full + "m10002009;"), fault);
             Check.due("2: nothing came", x.count(0), already);
             Check.due("2: just as many as there is room", Check.text(x, 0, full), 9 - already);
             Check.due("2: full", x.count(0), 8);
@@ -274,7 +274,7 @@ public final class SkyBoundsTest {
                 Check.due("4: need of quick " + quick, x.looker(l, 3), Told.NEED[quick]);
             }
         }
-        MeteorsAreProposals y = Check.told("m00122009;m00002009;m00122009;m00122009;m00122009;m00122009;m00122009;m00122019;");
+        MeteorsAreProposals y = Check.told("m00122009;m00002009;" + "m00122009;".repeat(5) + "m00122019;");
         Check.due("4: run", y.run(0), 2);
         Check.due("4: 0 said yes to 1", y.looker(0, 2), 1);
         Check.due("4: 4 said yes to 0", y.looker(4, 2), 0);
@@ -454,7 +454,7 @@ public final class SkyBoundsTest {
         Check.due("8: those two", x.run(0), 2);
         Check.due("8: 0 is there again", x.looker(0, 2), 0);
         Check.due("8: 4 is there again", x.looker(4, 2), 4);
-        MeteorsAreProposals y = Check.told("m20032009;m20032009;m20032009;m20032009;m20032009;m20032009;m20032009;m00122009;");
+        MeteorsAreProposals y = Check.told("m20032009;".repeat(7) + "m00122009;");
         Check.due("8: the last of eight", y.run(0), 1);
         Check.due("8: 4 has 7", y.looker(4, 2), 7);
     }
@@ -489,7 +489,7 @@ public final class SkyBoundsTest {
         Check.due("9: they can be had again", x.run(0), 5);
         Check.due("9: below", x.free(-1), -1);
         Check.due("9: above", x.free(5), -1);
-        MeteorsAreProposals y = Check.told("m20002009;m20002009;m20002009;m20002009;m20002009;m20002009;m20002009;m00122009;r00;");
+        MeteorsAreProposals y = Check.told("m20002009;".repeat(7) + "m00122009;r00;");
         Check.due("9: the last meteor", y.free(4), 7);
     }
 }

@@ -1,4 +1,4 @@
-/** Promises 30 to 35 at the edges that the document names: rows empty and too long, seeds that wrap around, the image. */
+/** Promises 30 to 35 at the edges that the document names: rows empty and too long, seeds that wrap, the image. */
 public final class ToldBoundsTest {
     private static final int[] LEAST = {-128, -32768, Integer.MIN_VALUE};
 
@@ -92,7 +92,7 @@ public final class ToldBoundsTest {
 
     private static void judgeRows() {
         MeteorsAreProposals none = new MeteorsAreProposals();
-        MeteorsAreProposals x = Check.told("m70002009;m70002009;m70002009;m70002009;m70002009;m70002009;m70002009;m70002009;");
+        MeteorsAreProposals x = Check.told("m70002009;".repeat(8));
         for (int sort = 0; sort < 3; sort++) {
             Check.row(none, 0, sort);
             Check.due("31: an empty row", none.judge(0, 0), -4);
@@ -217,8 +217,7 @@ public final class ToldBoundsTest {
         Check.due("32: of none", new MeteorsAreProposals().augusts(20, 4711, 1), 0);
         Check.due("32: of a dark one", Check.told("m29072009;").augusts(20, 4711, 0), 0);
         // BRIGHT 12 over 7 in one step, eight times: in each August with a NEED of 1 somewhere, all eight
-        MeteorsAreProposals eight = Check.told(
-            "m79072009;m79072009;m79072009;m79072009;m79072009;m79072009;m79072009;m79072009;");
+        MeteorsAreProposals eight = Check.told("m79072009;".repeat(8));
         for (int n = 1; n <= 20; n++) {
             Check.due("32: eight each, " + n + " times", eight.augusts(n, 99, 0), 8 * drawn(n, 99, 12, 1, 9)[0]);
         }
@@ -399,15 +398,16 @@ public final class ToldBoundsTest {
         }
         Check.due("35: the least quick", x.count(3), 0);
         Check.due("35: the least roofs", x.count(4), 0);
-        MeteorsAreProposals y = Check.told("m00002009;m20032009;m00032009;m00062009;m00092009;m20122009;m20122009;m00122009;");
+        MeteorsAreProposals y = Check.told(
+            "m00002009;m20032009;m00032009;m00062009;m00092009;m20122009;m20122009;m00122009;");
         Check.due("35: nobody", y.count(5), 0);
         y.run(0);
         Check.due("35: the first and the last", y.count(5), 0b10011101);
         y.free(0);
         Check.due("35: no more the first", y.count(5), 0b10011100);
-        MeteorsAreProposals most = Check.told("m39002009;m39002009;m39002009;m39002009;m39002009;m39002009;m39002009;m39002009;");
+        MeteorsAreProposals most = Check.told("m39002009;".repeat(8));
         Check.due("35: the most heat", most.count(1), 144);
-        MeteorsAreProposals longest = Check.told("m49002009;m49002009;m49002009;m49002009;m49002009;m49002009;m49002009;m49002009;");
+        MeteorsAreProposals longest = Check.told("m49002009;".repeat(8));
         Check.due("35: the most lasts", longest.count(2), 112);
         int[] others = {Integer.MIN_VALUE, -1, 6, 7, Integer.MAX_VALUE};
         for (int what : others) {
