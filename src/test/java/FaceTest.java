@@ -4,9 +4,12 @@ import java.lang.reflect.Modifier;
 import java.nio.charset.StandardCharsets;
 import java.nio.file.Files;
 import java.nio.file.Path;
+import java.util.ArrayList;
 import java.util.Arrays;
+import java.util.List;
 import java.util.Set;
 import java.util.TreeSet;
+import java.util.regex.Matcher;
 import java.util.regex.Pattern;
 
 /** The public face as the document has it, and those rules of LANGUAGE.md that can be seen from outside or by words. */
@@ -43,6 +46,7 @@ public final class FaceTest {
             members(inside);
         }
         Check.that("rule 11: twelve classes", it.getDeclaredClasses().length + 1 <= 12);
+        document();
         source(Path.of(args.length > 0 ? args[0] : "src/main/java/MeteorsAreProposals.java"));
         Check.end();
     }
@@ -71,6 +75,27 @@ public final class FaceTest {
             Check.that(field + " is private", Modifier.isPrivate(field.getModifiers()));
         }
         members(it);
+    }
+
+    /** The calls above are those of the document, one for one and in its order, and so is what they throw. */
+    private static void document() throws Exception {
+        String text = Files.readString(Path.of("../shared/DOC.md"), StandardCharsets.UTF_8);
+        String face = text.substring(text.indexOf("## The public face"), text.indexOf("## Terms"));
+        List<String> found = new ArrayList<>();
+        for (String line : face.split("\n")) {
+            Matcher call = Pattern.compile("    public (int|long) (\\w+)\\((.*?)\\)(.*);").matcher(line);
+            if (call.matches()) {
+                String numbers = call.group(3).replaceAll("int \\w+", "int").replace(" ", "");
+                found.add(call.group(1) + " " + call.group(2) + "(" + numbers + ")");
+                boolean throwsSome = call.group(2).equals("element");
+                Check.same("what " + call.group(2) + " throws", call.group(4),
+                    throwsSome ? " throws IllegalArgumentException, IllegalStateException" : "");
+            }
+        }
+        Check.same("the face of the document", found.toString(), Arrays.asList(FACE).toString());
+        Class<?>[] thrown = MeteorsAreProposals.class.getMethod("element", int.class, int.class).getExceptionTypes();
+        Check.same("what element throws", Arrays.toString(thrown),
+            Arrays.toString(new Class<?>[] {IllegalArgumentException.class, IllegalStateException.class}));
     }
 
     private static void members(Class<?> one) {
